@@ -28,6 +28,7 @@ public final class HookBoxes {
     private final Sum inHand;
     private final Sum factor;
     private final Sum kept;
+    /** 0: there is no image. */
     private int keptRows;
     private int keptRound;
     private final Sheet[] sheets;
@@ -43,8 +44,6 @@ public final class HookBoxes {
         inHand = new Sum();
         factor = new Sum();
         kept = new Sum();
-        keptRows = 0;
-        keptRound = 0;
         sheets = new Sheet[SHEETS];
         for (int s = 0; s < SHEETS; s++) {
             sheets[s] = new Sheet();
@@ -994,11 +993,6 @@ public final class HookBoxes {
             for (int level = 0; level < sides.length; level++) {
                 sides[level] = new Sum();
             }
-            size = 0;
-            parts = 0;
-            fault = NONE;
-            spent = false;
-            at = 0;
         }
 
         void append(int b) {

@@ -152,6 +152,8 @@ public final class LotsTest {
         due("it tells it", x.tells(2, 4, 4), -1);
         due("it has 6", x.put(2, 6, 0), -12);
         x.box(3, 7);
+        due("film(2, 0, 0)", x.film(2, 0, 0), 35);
+        due("it tells [] once", x.load(2, 0, 0, 1) + x.term(0, 0), 2);
         due("film(2, 16, 18)", x.film(2, 16, 18), 35);
         due("it tells it", x.tells(2, 16, 18), -1);
         due("it has 35", x.put(2, 34, 0), 1);

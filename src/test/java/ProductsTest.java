@@ -175,6 +175,9 @@ public final class ProductsTest {
         due("nine", x.rootsOf(0, 0), -2);
         Check.tell(x, 0, 1, 6);
         due("no shape", x.rootsOf(0, 0), -3);
+        Check.tell(x, 0, 1, 1, 4);
+        due("three", x.rootsOf(0, 5), x.times(2, 4, 5, 0) + x.times(3, 4, 5, 0));
+        due("two behind three", x.roots(1, 1, 2), 1);
         Check.tell(x, 0, -1);
         due("no shape", x.rootsOf(0, 0), -3);
         Check.tell(x, 0, 6, 6, 6, 6, 6, 6, 6, 6, 6);

@@ -232,6 +232,12 @@ public final class SumsTest {
         due("greatest", x.term(0, 4), 1000000);
         read(x, "(1000*1000*[2]-1000*1000*[11])*[21]*9999", 0);
         read(x, "(1000*1000+q)*1000*1000", -3);
+        x.box(4, 7);
+        read(x, "q*q*q*q*q*q*q*[333]*(q*q*q*q*q*q*q*[333])", -3);
+        read(x, "q*q*q*q*q*q*q*[3333]*(q*q*q*q*q*q*q*[3333])", -3);
+        read(x, "q*q*q*q*q*q*q*[3333]*(q*q*q*q*q*q*q*[3333]*0)", 0);
+        read(x, "q*q*q*q*[3333]*[3333]", 1);
+        due("17 turns would be the most, 7 are", x.term(7, x.number(3)) + x.term(7, x.number(111)), 1);
     }
 
     /** Promise 17 and 25: parts. */
