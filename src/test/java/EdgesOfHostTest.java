@@ -87,6 +87,17 @@ public final class EdgesOfHostTest {
             x.box(4, 5);
             walks(c, x, 77, 30);
         });
+        ALL.edge("18: WALK: that is in it OFTEN (not 0)", (x, c) -> {
+            // from [] one goes to the SHAPE that is drawn, not to another one of that SIZE or round
+            boolean[] seen = new boolean[6];
+            for (int seed = 0; seed < 40; seed++) {
+                int j = ((seed * 1103515245 + 12345) >>> 9) % 6;
+                seen[j] = true;
+                c.due("drawn(" + seed + ", 1, 0)", x.drawn(seed, 1, 0), j);
+                c.due("drawn(" + seed + ", 1, 1)", x.drawn(seed, 1, 1), 0);
+            }
+            c.holds("each SHAPE is drawn", seen[0] && seen[1] && seen[2] && seen[3] && seen[4] && seen[5]);
+        });
         ALL.edge("18: WALK: the first SHAPE by number that is in it, also one that is more often round", (x, c) -> {
             // from [1] with [21]: [] is the first, round once, [22] is the other
             int found = 0;
@@ -236,6 +247,10 @@ public final class EdgesOfHostTest {
             Check.tell(x, 0, 9, 9, 9, 9, 9, 9);
             x.film(0, 1, 0);
             c.holds("as told", Edges.told(x, 0, 0, 6).equals("0 1 0 0 0 0"));
+        });
+        ALL.edge("21: OFTEN of the first SHAPE, of the last one", (x, c) -> {
+            x.film(0, 4, 1);
+            c.holds("as told", Edges.told(x, 0, 0, 6).equals("1 0 0 0 0 1"));
         });
         ALL.edge("21: all SHAPES of the least box, of the greatest", (x, c) -> {
             x.box(1, 2);
@@ -412,6 +427,11 @@ public final class EdgesOfHostTest {
             c.due("the last item", x.load(0, 1, 2, 1), 1);
             x.sheet(0, 1, 0);
             c.due("of a SHEET of none", x.load(0, 1, 0, 1), -12);
+        });
+        ALL.edge("24: -12: also where it would be for what is no SHAPE", (x, c) -> {
+            x.sheet(0, 1, 7);
+            c.due("load(0, 1, 0, 7)", x.load(0, 1, 0, 7), 6);
+            c.due("load(0, 1, 0, 8)", x.load(0, 1, 0, 8), -12);
         });
         ALL.edge("24: -12: what stood ahead came", (x, c) -> {
             Check.read(x, "[22]*9");

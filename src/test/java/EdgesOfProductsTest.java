@@ -139,6 +139,24 @@ public final class EdgesOfProductsTest {
             often(c, x, 0, 3321, 3321, 1);
             often(c, x, 0, 3321, 333, 0);
         });
+        ALL.edge("PRODUCT: with the sign of an order of which two twos stand the wrong way round", (x, c) -> {
+            x.box(3, 7);
+            // [222] to places 1 2 0: 3 3 0
+            often(c, x, 0, 222, 222, 1);
+            often(c, x, 0, 222, 33, 0);
+            often(c, x, 0, 333, 333, 1);
+            often(c, x, 0, 333, 441, 0);
+        });
+        ALL.edge("PRODUCTS by the last SHAPE, and by the first of the next one", (x, c) -> {
+            for (int rows = 3; rows <= 4; rows++) {
+                x.box(rows, 7);
+                for (int i = 0; i < 34; i++) {
+                    c.due("turns(" + i + ", 34, 2)", x.turns(i, 34, 2), 1);
+                    c.due("times(" + (i + 1) + ", 0, " + (i + 1) + ", 0)", x.times(i + 1, 0, i + 1, 0), 1);
+                    c.due("turns(" + (i + 1) + ", 0, 2)", x.turns(i + 1, 0, 2), 1);
+                }
+            }
+        });
         ALL.edge("OFTEN is a sum: more than 1", (x, c) -> {
             x.box(3, 6);
             often(c, x, 21, 21, 321, 2);
@@ -242,7 +260,12 @@ public final class EdgesOfProductsTest {
             c.due("around(1, 4, 0, 0)", x.around(1, 4, 0, 0), 0);
             c.due("around(1, 4, 0, 1)", x.around(1, 4, 0, 1), -1);
         });
-        ALL.edge("9: the first is EMPTY", (x, c) -> c.due("around(4, 4, 0, 1)", x.around(4, 4, 0, 1), 0));
+        ALL.edge("9: the first is EMPTY", (x, c) -> {
+            for (int i = 0; i < 6; i++) {
+                c.due("around(" + i + ", " + i + ", 0, 0)", x.around(i, i, 0, 0), 1);
+                c.due("around(" + i + ", " + i + ", 0, 1)", x.around(i, i, 0, 1), 0);
+            }
+        });
         ALL.edge("9: with d TURNS (0 .. 7), just so many", (x, c) -> {
             // [] is in [22] [22], round twice
             int[] want = {0, 0, 1, 0, 0, 0, 0, 0};
@@ -365,6 +388,12 @@ public final class EdgesOfProductsTest {
                     c.due("roots(last, 1, " + l + ")", x.roots(last, 1, l), x.times(last, 1, l, 0));
                 }
             }
+        });
+        ALL.edge("11: PRODUCT of i, j alone, also behind one of more SHAPES", (x, c) -> {
+            Check.tell(x, 0, 4, 4, 4, 4, 4, 4, 4, 4);
+            x.rootsOf(0, 0);
+            c.due("roots(1, 1, 2)", x.roots(1, 1, 2), 1);
+            c.due("roots(1, 4, 0)", x.roots(1, 4, 0), 1);
         });
         ALL.edge("11: OFTEN is 0", (x, c) -> {
             c.due("roots(0, 0, 5)", x.roots(0, 0, 5), 0);

@@ -382,8 +382,14 @@ public final class EdgesOfShapesTest {
         ALL.edge("4: NONE: a row greater than that ahead", (x, c) -> {
             x.box(4, 7);
             c.due("number(12)", x.number(12), -1);
+            // greater by more than 1: the BEADS would be those of a SHAPE
+            c.due("number(13)", x.number(13), -1);
             c.due("number(113)", x.number(113), -1);
             c.due("number(2231)", x.number(2231), -1);
+            x.box(2, 7);
+            for (int digits = 12; digits <= 15; digits++) {
+                c.due("number(" + digits + ")", x.number(digits), -1);
+            }
         });
         ALL.edge("4: NONE: more rows than ROWS", (x, c) -> {
             c.due("number(22)", x.number(22), 5);

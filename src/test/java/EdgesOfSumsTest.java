@@ -122,6 +122,35 @@ public final class EdgesOfSumsTest {
             reads(c, x, "(0-1001)*1000", -3);
             reads(c, x, "1000*501*[1]*[1]*[1]", -3);
         });
+        ALL.edge("SPENT: beyond by 1", (x, c) -> {
+            // 101 * 9901 is 1000001
+            reads(c, x, "101*9901", -3);
+            reads(c, x, "(0-101)*9901", -3);
+            reads(c, x, "(1000*500*[2]+(1000*500+1)*[11])*[1]", -3);
+            reads(c, x, "1000*500*[2]+(1000*500+1)*[11]", 2);
+            c.due("multiply(1)", x.multiply(1), -3);
+            c.due("multiply(0)", x.multiply(0), 2);
+        });
+        ALL.edge("A COEFFICIENT of the last SHAPE of 35, of 7 TURNS", (x, c) -> {
+            x.box(4, 7);
+            reads(c, x, Q7 + "*[3333]", 1);
+            c.due("count(3)", x.count(3), 1);
+            c.due("term(7, 34)", x.term(7, 34), 1);
+            reads(c, x, "5*" + Q7 + "*[3333]+7*" + Q7 + "*[3333]", 1);
+            c.due("term(7, 34)", x.term(7, 34), 12);
+            reads(c, x, "[3333]-[3333]", 0);
+            c.due("term(7, 34)", x.term(7, 34), 0);
+            reads(c, x, "1000*1000*" + Q7 + "*[3333]+" + Q7 + "*[3333]", -3);
+        });
+        ALL.edge("SUMS multiplied: q on either side, each SHAPE", (x, c) -> {
+            int[] rows = {0, 1, 2, 11, 21, 22};
+            for (int l = 1; l < 6; l++) {
+                reads(c, x, "q*[" + rows[l] + "]", 1);
+                c.due("term(1, " + l + ")", x.term(1, l), 1);
+                reads(c, x, "[" + rows[l] + "]*q", 1);
+                c.due("term(1, " + l + ")", x.term(1, l), 1);
+            }
+        });
         ALL.edge("SPENT: what comes of a +, -, * is looked at, not what comes at the end", (x, c) -> {
             reads(c, x, "1000*1000+1-1", -3);
             reads(c, x, "0-1000*1000-1+1", -3);
@@ -135,6 +164,12 @@ public final class EdgesOfSumsTest {
             reads(c, x, "1000*1000*([2]+[11]-[21])*([1]+1)", 5);
             c.due("[21]", x.term(0, 4), 1000000);
             reads(c, x, "1000*1000*([2]+[11])*([1]+1)", -3);
+            // [22] is [21] [1] and [2] [2] less [22]
+            reads(c, x, "1000*1000*([21]+[2]+1)*([1]+[2]-[22])", 8);
+            c.due("[22]", x.term(0, 5), 1000000);
+            reads(c, x, "([1]+[2]-[22])*(1000*1000*([21]+[2]+1))", 8);
+            c.due("[22]", x.term(0, 5), 1000000);
+            reads(c, x, "1000*1000*([21]+[2]+1)*([1]+[2])", -3);
         });
         ALL.edge("SPENT: far beyond, where the lowest bits are 0", (x, c) -> {
             reads(c, x, "1024*64*(1024*64)", -3);
@@ -203,6 +238,16 @@ public final class EdgesOfSumsTest {
             Check.read(x, Q7 + "*([2]-[11])");
             c.due("multiply(4)", x.multiply(4), 0);
             c.due("count(3)", x.count(3), 0);
+        });
+        ALL.edge("15: by this SHAPE alone, not by those that were", (x, c) -> {
+            Check.read(x, "1");
+            c.due("multiply(2)", x.multiply(2), 1);
+            c.due("multiply(3)", x.multiply(3), 1);
+            c.due("term(1, 0)", x.term(1, 0), 1);
+            Check.read(x, "1");
+            x.multiply(6);
+            c.due("multiply(4)", x.multiply(4), 1);
+            c.due("term(0, 4)", x.term(0, 4), 1);
         });
         ALL.edge("15: how many COEFFICIENTS aren't 0", (x, c) -> {
             Check.read(x, "[21]");
