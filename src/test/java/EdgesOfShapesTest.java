@@ -91,6 +91,19 @@ public final class EdgesOfShapesTest {
             c.due("count(3)", x.count(3), 0);
             c.due("term(0, 0)", x.term(0, 0), 0);
         });
+        ALL.edge("2: THE SUM is all 0 in each box, least and greatest, another one or the same", (x, c) -> {
+            for (int rows = 1; rows <= 4; rows++) {
+                for (int round = rows + 1; round <= 7; round++) {
+                    Check.read(x, "3+q*[1]");
+                    x.box(rows, round);
+                    c.due("another one: count(3)", x.count(3), 0);
+                    Check.read(x, "3+q*[1]");
+                    c.due("count(3) of a TEXT there", x.count(3), 2);
+                    x.box(rows, round);
+                    c.due("the same: count(3)", x.count(3), 0);
+                }
+            }
+        });
         ALL.edge("2: BAD changes nothing", (x, c) -> {
             Check.read(x, "3+q*[21]");
             String state = Edges.state(x);
