@@ -24,7 +24,10 @@ public final class FaceTest {
         Check check = new Check("FaceTest");
         face(check);
         nested(check);
-        words(check, Files.readString(Path.of("src/main/java/HookBoxes.java")));
+        String text = Files.readString(Path.of("src/main/java/HookBoxes.java"));
+        words(check, text);
+        lengths(check, text);
+        document(check, Files.readString(Path.of("../shared/DOC.md")), text);
         check.end();
     }
 
@@ -118,5 +121,51 @@ public final class FaceTest {
         for (int at = 0; at < text.length(); at++) {
             check.holds("signs 1 to 127 alone", text.charAt(at) < 128);
         }
+    }
+
+    private static void lengths(Check check, String text) {
+        Matcher bodies = Pattern.compile("(?ms)^( {4}| {8})(?:public|private|static|int|boolean|void|long|[A-Z]\\w*\\()"
+            + "[^;{}=]*\\) \\{\n(.*?)^\\1\\}$").matcher(text);
+        int many = 0;
+        while (bodies.find()) {
+            many++;
+            check.holds("some sixty lines at most: " + bodies.group(), bodies.group(2).split("\n").length <= 60);
+        }
+        check.holds("bodies are found: " + many, many > 80);
+    }
+
+    /** Each line of the document's face, and each of its heads with just the calls behind it, stand in the file. */
+    private static void document(Check check, String doc, String text) {
+        int faced = doc.indexOf("public final class HookBoxes {");
+        int lines = 0;
+        for (String line : doc.substring(faced, doc.indexOf("```", faced)).split("\n")) {
+            String told = line.trim();
+            if (told.startsWith("public ")) {
+                String due = told.endsWith(");") ? told.substring(0, told.length() - 1) + " {" : told;
+                check.holds(told, text.contains(due + "\n"));
+                lines++;
+            }
+        }
+        check.due("lines of the face", lines, 31);
+        Matcher heads = Pattern.compile("Ahead of the calls (.*?) the interface says: (---- .*?)\\.\n").matcher(doc);
+        int headed = 0;
+        while (heads.find()) {
+            int from = text.indexOf("// " + heads.group(2) + "\n");
+            check.holds(heads.group(2), from >= 0);
+            if (from < 0) {
+                continue;
+            }
+            int end = text.indexOf("// ----", from + 1);
+            StringBuilder calls = new StringBuilder();
+            Matcher call = Pattern.compile("(?m)^    public \\w+ (\\w+)\\(")
+                .matcher(text.substring(from, end < 0 ? text.length() : end));
+            while (call.find()) {
+                calls.append(calls.length() == 0 ? "`" : ", `").append(call.group(1)).append('`');
+            }
+            check.holds(heads.group(2) + " stands ahead of " + heads.group(1) + ", not of " + calls,
+                calls.toString().equals(heads.group(1)));
+            headed++;
+        }
+        check.due("heads", headed, 5);
     }
 }
